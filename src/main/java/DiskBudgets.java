@@ -1710,8 +1710,8 @@ public final class DiskBudgets {
         private void choose() {
             if (active >= 0) {
                 Queue queue = queues[active];
-                if (queue.lying > 0) {
-                    int row = requests.nextOf(active, head);
+                int row = requests.nextOf(active, head);
+                if (row >= 0) {
                     if (served != 0 && served + requests.cells[row + Requests.MANY] > queue.budget) {
                         expire(queue, BUDGET_SPENT);
                     } else if (tick - began >= slice) {
