@@ -53,11 +53,24 @@ public final class ActsTest {
         Checks.put(x, rows + "\1\6");
         C.same("17 rows", x.see(), -1);
         C.same("rows stay", x.has(12), 16);
+        C.same("they count", x.fits(), fitsAt60(x));
         DiskBudgets none = new DiskBudgets();
         Checks.put(none, 1, 6);
         C.same("without a disk", none.see(), -1);
         C.same("without a disk", none.fits(), -1);
         C.same("without a disk", none.tells(0), -1);
+    }
+
+    private static int fitsAt60(DiskBudgets x) {
+        int mask = 0;
+        for (int i = 0; i <= 20; i++) {
+            boolean told = x.idle(i);
+            x.ticks(60);
+            mask |= x.has(4) == 0 ? 1 << i : 0;
+            x.undo();
+            if (told) x.undo();
+        }
+        return mask;
     }
 
     private static void tells() {

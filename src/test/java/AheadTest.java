@@ -19,6 +19,7 @@ public final class AheadTest {
         wrongOnes(x);
         beyond();
         early();
+        edges();
         C.close();
     }
 
@@ -315,6 +316,20 @@ public final class AheadTest {
         C.same("when", x.when(0, 40), y.when(0, 40));
         for (int w = 0; w < 4; w++) C.same("expiry " + w, x.expiry(50, w), y.expiry(50, w));
         C.same("the tick", x.has(2), 9999);
+    }
+
+    private static void edges() {
+        String one = "disk 64 seek 64 rate 64;idle 0;process a weight 1 from ";
+        C.same("done in the 400th", Checks.disk(one + "398 does on take 1 think 0;").when(0, 1), 400);
+        C.same("done in the 401st", Checks.disk(one + "399 does on take 1 think 0;").when(0, 1), -1);
+        C.same("kept in the 400th", Checks.disk(one + "398 does on take 1 think 9;").expiry(0, 0), 400);
+        C.same("kept in the 401st", Checks.disk(one + "399 does on take 1 think 9;").expiry(0, 0), -1);
+        DiskBudgets x = Checks.disk("disk 999 seek 500 rate 1;near 0;process a weight 99 from 0 does at 100 take 9 think 0;process b weight 1 from 0 does at 500 take 9 think 0;");
+        C.same("the greatest weight alone", x.least(12, 1, 9), 100);
+        x.weight(0, 100);
+        C.same("of like ones the first", x.least(12, 1, 9), -1);
+        x.weight(0, 50);
+        C.same("the least", x.least(12, 1, 9), 51);
     }
 
     /** A slice of 1 parts the two, and so the later one is done sooner than by a long one. */

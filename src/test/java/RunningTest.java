@@ -342,6 +342,19 @@ public final class RunningTest {
         C.same("nine out", y.process(0, 5), 9);
         C.same("by hand no more", y.ask(0, 9, 1), -1);
         C.same("of a step", y.request(0, 7, 4), 0);
+        StringBuilder six = new StringBuilder("disk 64 seek 1 rate 1;near 999;");
+        for (char c = 'a'; c <= 'f'; c++) six.append("process ").append(c).append(" weight 1 from 1 does on take 1 think 0;");
+        DiskBudgets z = Checks.disk(six.toString());
+        z.ask(0, 0, 64);
+        z.ticks(1);
+        for (int p = 0; p < 6; p++) for (int i = 0; i < (p == 0 ? 7 : 8); i++) C.same("all to one", z.ask(p, 9, 1), 0);
+        z.ticks(1);
+        C.same("53 lie there", z.queue(0, 0), 53);
+        for (int p = 0; p < 6; p++) C.same("nine out", z.process(p, 5), 9);
+        C.same("the last one", z.request(0, 52, 2), 5);
+        for (int p = 0; p < 6; p++) z.on(p, false);
+        Checks.go(z, 400);
+        for (int p = 0; p < 6; p++) C.same("all done", z.process(p, 9), 9);
     }
 
     private static void noProcesses() {

@@ -12,7 +12,9 @@ public final class TextTest {
         fault2();
         fault3();
         fault5and6();
+        wholeTape();
         stays();
+        asWithoutRaise();
         C.close();
     }
 
@@ -96,7 +98,11 @@ public final class TextTest {
         bad(D + "idle3;", 1, 26);
         bad(D + "idle 3 4;", 1, 29);
         bad(D + "idle 3 idle 3;", 1, 29);
-        bad(D + "take 3;", 1, 22);
+        for (String w : new String[] {"seek", "rate", "to", "for", "rest", "weight", "from", "does", "at", "on", "take", "think"}) {
+            bad(D + w + " 3;", 1, 22);
+            bad(D + w + " 3 for 3 rest 3;", 1, 22);
+            bad(D + "process " + w + " weight 1 from 0 does on take 1 think 1;", 1, 30);
+        }
         bad(D + "12345;", 1, 22);
         bad(D + "\tidle 3;", 1, 22);
         bad(D + "idle 3\u00e9;", 1, 28);
@@ -179,6 +185,46 @@ public final class TextTest {
         bad(D + s + "at 99", 6, D.length() + s.length());
         bad(D + s + "on take 1 think 1, at 0", 6, D.length() + s.length() + 19);
         bad(D + s + "att", 1, D.length() + s.length());
+    }
+
+    private static void wholeTape() {
+        StringBuilder signs = new StringBuilder();
+        StringBuilder blanks = new StringBuilder(D);
+        while (signs.length() < 1580) signs.append(';');
+        while (blanks.length() < 1580) blanks.append('\n');
+        bad(signs.toString(), 1, 0);
+        good(blanks.toString(), 1);
+        DiskBudgets x = new DiskBudgets();
+        for (int i = 0; i < 80; i++) x.feed(0x3b3b3b3b, 0x3b3b3b3b, 0x3b3b3b3b, 0x3b3b3b3b, 0x3b3b3b3b);
+        C.same("1600 signs", x.disk(), -1);
+        C.same("the first", x.fault(1), 0);
+        for (int i = 0; i < 80; i++) x.feed(0x0a202020, 0x20202020, 0x20202020, 0x20202020, 0x20202020);
+        C.same("1600 blanks", x.disk(), -1);
+        C.same("the length", x.fault(1), 1600);
+    }
+
+    /** What former disks told is not told by the next one. */
+    private static void asWithoutRaise() {
+        DiskBudgets x = new DiskBudgets();
+        for (int i = 0; i < 3; i++) {
+            Checks.put(x, D + "budget 1 to 3;idle 1;slice 3;near 3;raise 9 for 500 rest 1;" + "process abcdef weight 9 from 9 does on take 9 think 9;");
+            x.disk();
+        }
+        Checks.put(x, D + "process a weight 2 from 999 does on take 1 think 1;");
+        x.disk();
+        C.same("idle", x.has(8), 4);
+        C.same("slice", x.has(9), 40);
+        C.same("top", x.has(10), 64);
+        C.same("budget", x.queue(0, 1), 36);
+        C.same("letter", x.letter(0, 1), 0);
+        Checks.go(x, 1000);
+        C.same("asked", x.process(0, 5), 1);
+        C.same("weight", x.queue(0, 8), 2);
+        C.same("raised", x.queue(0, 7), 999);
+        C.same("17 from 0 is far", x.ask(0, 17 + 1, 1) >= 0 && x.queue(0, 4) == 1, true);
+        Checks.put(x, D + "process a weight 2 from 999 does on take 1 think 1;");
+        x.disk();
+        C.same("16 from 0 is near", x.ask(0, 16, 1) >= 0 && x.queue(0, 4) == 0, true);
     }
 
     private static void stays() {
