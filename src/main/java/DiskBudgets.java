@@ -686,6 +686,9 @@ public final class DiskBudgets {
     }
 
     private static int bitsOfPositive(float x) {
+        if (x == 0f) {
+            return 0;
+        }
         float scaled = x;
         int exponent = 127;
         while (scaled >= 2f && exponent < 254) {

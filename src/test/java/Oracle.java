@@ -33,6 +33,8 @@ final class Oracle {
         static final Set<String> OWN = Set.of("disk", "seek", "rate", "budget", "to", "idle", "slice",
                 "near", "raise", "for", "rest", "weight", "from", "does", "stream", "at", "on", "take",
                 "think", "process");
+        /** No byte is so great. */
+        static final char END = 999;
         final String s;
         int i = 0;
         int statements = 0;
@@ -51,7 +53,7 @@ final class Oracle {
             rate = number(1, 64);
             sign(';');
             statements = 1;
-            while (peek() != 0) {
+            while (peek() != END) {
                 statement();
                 sign(';');
                 statements++;
@@ -60,7 +62,7 @@ final class Oracle {
 
         char peek() {
             while (i < s.length() && (s.charAt(i) == ' ' || s.charAt(i) == '\n')) i++;
-            return i < s.length() ? s.charAt(i) : 0;
+            return i < s.length() ? s.charAt(i) : END;
         }
 
         String run(String kind) {

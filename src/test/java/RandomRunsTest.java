@@ -32,7 +32,7 @@ public final class RandomRunsTest {
     }
 
     private String tail() {
-        return log.substring(Math.max(0, log.length() - 3000));
+        return log.substring(Math.max(0, log.length() - 1500));
     }
 
     private void same(String call, long got, long want) {

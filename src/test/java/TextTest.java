@@ -105,6 +105,8 @@ public final class TextTest {
         }
         bad(D + "12345;", 1, 22);
         bad(D + "\tidle 3;", 1, 22);
+        bad(D + "\0", 1, 22);
+        bad(D + "idle 3\0;", 1, 28);
         bad(D + "idle 3\u00e9;", 1, 28);
         bad(D + "budget 3 4;", 1, 31);
         bad(D + "process ;", 1, 30);
