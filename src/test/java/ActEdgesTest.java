@@ -16,6 +16,7 @@ public final class ActEdgesTest {
         askSectors();
         askUpTo64();
         askUpToEightOut();
+        askOfAllAtOnce();
         askStays();
         askToWhichQueue();
         weightFrom1To100();
@@ -31,6 +32,7 @@ public final class ActEdgesTest {
         drawsGoRound();
         undoOfTwenty();
         undoOfEach();
+        undoOfMoreThanFortyKept();
         undoLeavesSeedAndSeen();
         undoOfNone();
         seedFrom0();
@@ -63,6 +65,23 @@ public final class ActEdgesTest {
         Checks.put(x, 3, 0);
         x.see();
         x.image();
+    }
+
+    /** One that is merged, with a miss; steps behind them; one raised; one that waits, one that lies, one it is busy with. */
+    private static void busyPast(DiskBudgets x) {
+        Checks.put(x, "disk 99 seek 9 rate 1;budget 1 to 30;idle 2;slice 99;near 9;raise 3 for 300 rest 1;"
+                + "process a weight 9 from 3 does on take 20 think 0,on take 4 think 0,on take 7 think 1;"
+                + "process b weight 5 from 4 does at 24 take 8 think 0,at 90 take 5 think 0,at 50 take 1 think 0;stream c weight 2 from 999 does on take 3 think 2;");
+        x.disk();
+        x.ticks(5);
+        x.ask(1, 70, 1);
+        x.ask(2, 1, 2);
+        x.ticks(1);
+        C.same("merged", x.process(1, 6), 0);
+        C.same("a miss", x.process(1, 7), 1);
+        C.same("raised", x.queue(0, 7) > 0, true);
+        C.same("waits", x.process(0, 2), 1);
+        C.same("a step behind it", x.process(0, 4), 1);
     }
 
     /** A refused call: what it answers, that it is counted, and that all stays. */
@@ -181,6 +200,31 @@ public final class ActEdgesTest {
         C.same("the ninth", u.ask(1, 9, 1), -1);
         C.same("a has one out", u.process(0, 5), 1);
         C.same("of a", u.ask(0, 9, 1), 0);
+    }
+
+    /** Nine out of each of six, all in one queue but for that which it is busy with: none is lost. */
+    private static void askOfAllAtOnce() {
+        StringBuilder six = new StringBuilder("disk 64 seek 1 rate 1;near 999;budget 999 to 999;");
+        for (char c = 'a'; c <= 'f'; c++) six.append("process ").append(c).append(" weight 1 from 1 does on take 1 think 0;");
+        DiskBudgets x = Checks.disk(six.toString());
+        x.ask(0, 0, 64);
+        x.ticks(1);
+        for (int p = 0; p < 6; p++) for (int i = p == 0 ? 1 : 0; i < 8; i++) C.same("to the first", x.ask(p, 9 + p, 1), 0);
+        x.ticks(1);
+        C.same("53 lie there", x.queue(0, 0), 53);
+        for (int p = 0; p < 6; p++) C.same("nine out of " + p, x.process(p, 5), 9);
+        C.same("the last that came", x.request(0, 52, 2), 5);
+        C.same("by its step", x.request(0, 52, 4), 0);
+        C.same("no more", x.request(0, 53, 2), -1);
+        for (int p = 0; p < 6; p++) C.same("none more by hand", x.ask(p, 9, 1), -1);
+        C.same("ahead", x.gain(200, 0) > 64, true);
+        C.same("undo", x.undo(), true);
+        C.same("47 lie there", x.queue(0, 0), 47);
+        x.ticks(1);
+        for (int p = 0; p < 6; p++) x.on(p, false);
+        Checks.go(x, 400);
+        for (int p = 0; p < 6; p++) C.same("all are done of " + p, x.process(p, 9), 9);
+        C.same("none out", x.process(5, 5), 0);
     }
 
     /** "as if its PROCESS ASKED, but that its STEPS, THINKS, whether it WAITS stay" */
@@ -453,10 +497,15 @@ public final class ActEdgesTest {
     }
 
     private static void undone(String what, Consumer<DiskBudgets> act) {
+        undone(what, ActEdgesTest::past, act);
+        undone(what + ", of a busy one", ActEdgesTest::busyPast, act);
+    }
+
+    private static void undone(String what, Consumer<DiskBudgets> past, Consumer<DiskBudgets> act) {
         DiskBudgets x = new DiskBudgets();
         DiskBudgets y = new DiskBudgets();
-        past(x);
-        past(y);
+        past.accept(x);
+        past.accept(y);
         act.accept(x);
         C.same(what + " is an act", x.has(13), y.has(13) + 1);
         C.same(what + ": undo", x.undo(), true);
@@ -464,6 +513,38 @@ public final class ActEdgesTest {
         x.ticks(44);
         y.ticks(44);
         C.same(what + ": and it goes on so", x.bits(0), y.bits(0));
+    }
+
+    /** What was KEPT and driven out by later ones is told again. */
+    private static void undoOfMoreThanFortyKept() {
+        String text = "disk 64 seek 64 rate 64;idle 0;process a weight 1 from 0 does at 5 take 1 think 1,at 9 take 2 think 2;";
+        DiskBudgets x = Checks.disk(text);
+        x.ticks(150);
+        C.same("forty", x.has(11), 40);
+        int[] before = kept(x);
+        x.ticks(100);
+        C.same("all are others", before[0] == x.kept(0, 0) || before[156] == x.kept(39, 0), false);
+        x.undo();
+        C.same("as before", Arrays.equals(kept(x), before), true);
+        DiskBudgets y = Checks.disk(text);
+        y.ticks(20);
+        int few = y.has(11);
+        y.on(0, false);
+        y.ticks(50);
+        C.same("one more at most", y.has(11) - few <= 1, true);
+        y.undo();
+        y.undo();
+        y.ticks(50);
+        y.undo();
+        DiskBudgets z = Checks.disk(text);
+        z.ticks(20);
+        Standing.same(C, "few are kept, as before", y, z);
+    }
+
+    private static int[] kept(DiskBudgets x) {
+        int[] all = new int[160];
+        for (int i = 0; i < 160; i++) all[i] = x.kept(i / 4, i % 4);
+        return all;
     }
 
     /** "(the seed, SEEN stay)" */
@@ -782,15 +863,18 @@ public final class ActEdgesTest {
         y.seed(77);
         Checks.put(y, 3, 0);
         y.see();
-        past(x, y);
+        C.same("image", x.image(), y.image());
         Standing.same(C, "all else is as at first", x, y);
         for (int i = 0; i < 3; i++) C.same("and goes on so", x.ticks(70), y.ticks(70));
         Standing.same(C, "and goes on so", x, y);
-    }
-
-    /** The images of both are made alike, for what is looked at then. */
-    private static void past(DiskBudgets x, DiskBudgets y) {
-        C.same("image", x.image(), y.image());
+        DiskBudgets u = new DiskBudgets();
+        busyPast(u);
+        put(u, 2, 99, 9, 1, 5, 1, 2, 1);
+        C.same("take", u.take(), true);
+        DiskBudgets v = new DiskBudgets();
+        busyPast(v);
+        for (int i = 0; i < 4; i++) v.undo();
+        Standing.same(C, "as at first, of a busy one", u, v);
     }
 
     /** "false, refused (5), all staying, when it is none" */

@@ -17,7 +17,9 @@ public final class AheadEdgesTest {
         noneSuch();
         withoutADisk();
         withoutProcesses();
+        withSixProcesses();
         laterOfTheseTicksAlone();
+        laterOfMany();
         shareCut();
         shareOfNone();
         whenTheKth();
@@ -27,10 +29,12 @@ public final class AheadEdgesTest {
         aloneWithWhatLies();
         idlingTheLeast();
         idlingMost();
+        idlingUpTo20();
         idlingToldNow();
         gainByBoth();
         apartOfOne();
         apartGreatestLessLeast();
+        apartByTheLeastWeight();
         latestTheFirst();
         latestOfNone();
         leastFromOneOn();
@@ -41,6 +45,9 @@ public final class AheadEdgesTest {
         worstOfNone();
         slicingTheGreatest();
         slicingLeast();
+        slicingOfOneAndOf199();
+        slicingByWhichNoneIsDone();
+        slicingNeitherBy0NorBy201();
         slicingWithout();
         lagBothWays();
         seeRows();
@@ -49,6 +56,7 @@ public final class AheadEdgesTest {
         seeTakesThePlaceOfFormer();
         fitsOfNothingSeen();
         fitsAllRows();
+        fitsOfSixteenRows();
         fitsAreAhead();
         fitsToldNow();
         tellsTheFirst();
@@ -277,6 +285,48 @@ public final class AheadEdgesTest {
         C.same("later", x.later(1, 0, 0), -1);
     }
 
+    /** Six processes, of which the last one is active: all of them count, and no seventh. */
+    private static void withSixProcesses() {
+        StringBuilder b = new StringBuilder("disk 64 seek 64 rate 1;idle 3;near 0;");
+        for (int p = 0; p < 6; p++) b.append("process ").append((char) ('a' + p)).append(" weight ").append(p == 5 ? 6 : 1).append(REST);
+        DiskBudgets x = Checks.disk(b.toString());
+        for (int p = 0; p < 6; p++) x.ask(p, 8 * p, p == 5 ? 9 : 1);
+        x.ticks(1);
+        C.same("the last one is active", x.has(4), 5);
+        // f: a way of 1 and 9, done at 10; waited for till 13; then a: a way of 1 and 1, done at 15, ..
+        C.same("later", x.later(11, 5, 1), 9);
+        C.same("share", x.share(11, 5), 100);
+        C.same("share of all", x.share(400, 5), 900 / 14);
+        C.same("share of the first", x.share(400, 0), 100 / 14);
+        C.same("when", x.when(5, 1), 10);
+        C.same("late", x.late(400, 5, 9), 1);
+        C.same("late", x.late(400, 5, 10), 0);
+        C.same("alone", x.alone(400, 5), 9);
+        C.same("idling", x.idling(200, 1), 14);
+        C.same("gain", x.gain(200, 0), 14);
+        C.same("apart", x.apart(10), Checks.bits(9f / 6f));
+        C.same("apart", x.apart(400), Checks.bits(9f / 6f - 1f));
+        C.same("latest", x.latest(10, 0, 0), 5);
+        C.same("latest", x.latest(400, 15, 0), 1);
+        C.same("worst", x.worst(10, 0), 5);
+        C.same("worst", x.worst(400, 0), 4);
+        C.same("least", x.least(100, 5, 9), 1);
+        C.same("slicing", x.slicing(10, 1), 10);
+        C.same("expiry", x.expiry(0, 1), 5);
+        C.same("lag", x.lag(5), 0);
+        see(x, 1, 5);
+        C.same("fits", x.fits(), 0x1fffff);
+        see(x, 1, 6);
+        C.same("none is active: it does not fit", x.fits(), 0);
+        see(x, 10, 5);
+        C.same("active till it is done, unless idle is 0", x.fits(), 0x1ffffe);
+        see(x, 10, 0);
+        C.same("then a, by idle 0", x.fits(), 1);
+        see(x, 60, 6);
+        x.seed(1);
+        C.same("tells", x.tells(1) > 0, true);
+    }
+
     // ---- 15 to 19
 
     /** "of these TICKS alone .. 3 the greatest (0 without)" */
@@ -292,6 +342,19 @@ public final class AheadEdgesTest {
         for (int w = 0; w < 4; w++) C.same("not yet " + w, x.later(2, 0, w), 0);
         x.ticks(2);
         C.same("a latency counts from its asking on, also ahead", x.later(1, 0, 2), 2);
+    }
+
+    /** "0 requests DONE, 1 SECTORS, 2 LATENCIES together, 3 the greatest" */
+    private static void laterOfMany() {
+        DiskBudgets x = Checks.disk("disk 64 seek 64 rate 1;idle 0;process a weight 3" + REST);
+        x.ask(0, 0, 9);
+        x.ask(0, 9, 2);
+        x.ask(0, 11, 4);
+        int[][] due = {{0, 0, 0, 0}, {1, 9, 9, 9}, {2, 11, 9 + 11, 11}, {3, 15, 9 + 11 + 15, 15}};
+        int[] ends = {9, 10, 12, 16};
+        for (int i = 0; i < 4; i++) for (int w = 0; w < 4; w++) C.same("later " + ends[i] + " " + w, x.later(ends[i], 0, w), due[i][w]);
+        x.ticks(10);
+        for (int w = 0; w < 4; w++) C.same("later from 10 on " + w, x.later(6, 0, w), new int[] {2, 6, 26, 15}[w]);
     }
 
     /** "in hundredths, cut" */
@@ -407,6 +470,16 @@ public final class AheadEdgesTest {
         C.same("more than by 0", x.gain(200, 0) < most, true);
     }
 
+    /** "(0 .. 20; what 0)": a is waited for by as many ticks as it thinks, and far b costs the rest. */
+    private static void idlingUpTo20() {
+        for (int think : new int[] {0, 1, 2, 10, 19, 20, 21}) {
+            DiskBudgets x = Checks.disk("disk 9999 seek 50 rate 64;near 0;slice 200;budget 999 to 999;process a weight 2 from 0 does on take 64 think " + think
+                    + ";process b weight 1 from 0 does at 9000 take 1 think 0;");
+            C.same("idling, a thinks " + think, x.idling(150, 0), think <= 20 ? think : 0);
+            C.same("sectors, a thinks " + think, x.idling(150, 1) > 64, think <= 20);
+        }
+    }
+
     /** "told now": UNTIL, which is told already, stays as it is. */
     private static void idlingToldNow() {
         DiskBudgets x = Checks.disk("disk 64 seek 64 rate 1;idle 20;near 0;process a weight 1" + REST + "process b weight 1" + REST);
@@ -459,6 +532,17 @@ public final class AheadEdgesTest {
         y.ask(0, 0, 5);
         C.same("raised", y.queue(0, 8), 140);
         C.same("by its weight", y.apart(400), Checks.bits(5f / 7f));
+    }
+
+    /** By weights of 1 and of 100. */
+    private static void apartByTheLeastWeight() {
+        DiskBudgets x = Checks.disk("disk 64 seek 64 rate 1;idle 0;near 0;process a weight 1" + REST + "process b weight 100" + REST);
+        x.ask(0, 0, 5);
+        x.ask(1, 20, 7);
+        C.same("5 less 0.07", x.apart(400), Checks.bits(5f - 7f / 100f));
+        x.weight(0, 100);
+        x.weight(1, 1);
+        C.same("7 less 0.05", x.apart(400), Checks.bits(7f - 5f / 100f));
     }
 
     /** "of like ones the first" */
@@ -599,6 +683,67 @@ public final class AheadEdgesTest {
         C.same("2", x.slicing(5, 1), 2);
     }
 
+    /** "The number slice (1 .. 200)": where only the least one parts a from b, and where all but the greatest do. */
+    private static void slicingOfOneAndOf199() {
+        // e reads 30; a then, from there on, in its first tick; by 1 b is next: it waited for 31, a way of 1, and 1.
+        DiskBudgets x = Checks.disk("disk 64 seek 64 rate 1;idle 0;near 0;process a weight 1 from 0 does at 30 take 1 think 0,on take 1 think 0;"
+                + "process b weight 1 from 0 does at 60 take 1 think 200;process e weight 100" + REST);
+        x.ask(2, 0, 30);
+        C.same("by 1 alone", x.slicing(100, 0), 1);
+        C.same("33", x.slicing(100, 1), 33);
+        x.slice(2);
+        C.same("by 2", x.worst(100, 1), 34);
+        // a is active for 199 ticks when it chooses again: by all but 200 b is next.
+        DiskBudgets y = Checks.disk("disk 999 seek 500 rate 1;idle 0;near 0;budget 999 to 999;slice 200;process a weight 1 from 0 does on take 1 think 0;process b weight 1" + REST);
+        y.ticks(180);
+        y.ask(1, 500, 1);
+        y.ticks(19);
+        C.same("began at 0", y.has(6), 0);
+        C.same("the tick", y.has(2), 199);
+        C.same("by 199", y.slicing(100, 0), 199);
+        C.same("it waited for 19, a way of 1, and 1", y.slicing(100, 1), 21);
+        y.ticks(1);
+        C.same("a tick later by 200, too", y.slicing(100, 0), 200);
+        C.same("22", y.slicing(100, 1), 22);
+    }
+
+    /** By a short one b goes, on its long way, and none is done in time: 0 is the least. */
+    private static void slicingByWhichNoneIsDone() {
+        DiskBudgets x = Checks.disk("disk 9999 seek 1 rate 1;idle 20;near 0;process a weight 1" + REST + "process b weight 1" + REST);
+        x.ask(0, 0, 1);
+        x.ask(1, 5000, 1);
+        x.ticks(9);
+        C.same("a is waited for", x.has(7), 21);
+        x.ask(0, 1, 1);
+        C.same("by 9 at most none is done", x.slicing(2, 0), 9);
+        C.same("0", x.slicing(2, 1), 0);
+        x.slice(10);
+        C.same("by 10 one is done", x.worst(2, 1), 1);
+    }
+
+    /** "(1 .. 200)": 0 and 201, which would do better here, are none. */
+    private static void slicingNeitherBy0NorBy201() {
+        // By 0 a's TOP were 1, and it were next at once; by 1 and on b, on its way of 10, is ahead of it.
+        DiskBudgets x = Checks.disk("disk 9999 seek 100 rate 64;idle 0;near 0;budget 1 to 99;process e weight 100" + REST + "process a weight 100" + REST + "process b weight 60" + REST);
+        x.ask(0, 0, 64);
+        x.ask(1, 64, 50);
+        x.ask(1, 114, 1);
+        x.ask(2, 1000, 1);
+        C.same("all alike", x.slicing(100, 0), 200);
+        C.same("e 1, a 1, b a way of 9 and 1, a a way of 9 and 1", x.slicing(100, 1), 22);
+        C.same("b is ahead", x.when(2, 1) < x.when(1, 2), true);
+        // By 201 a's last one, which was asked for at 0, were ahead of b.
+        DiskBudgets y = Checks.disk("disk 9999 seek 100 rate 1;idle 0;near 0;budget 999 to 999;slice 200;process a weight 1" + REST + "process b weight 1" + REST);
+        for (int i = 0; i < 4; i++) y.ask(0, 50 * i, 50);
+        y.ask(0, 200, 1);
+        y.ticks(190);
+        y.ask(1, 1200, 1);
+        y.ticks(10);
+        C.same("a is active since 0", y.has(6), 0);
+        C.same("all alike", y.slicing(100, 0), 200);
+        C.same("200, b a way of 10 and 1, a a way of 11 and 1", y.slicing(100, 1), 223);
+    }
+
     /** "(1 .. 100; 0, if none is DONE)" */
     private static void slicingWithout() {
         DiskBudgets x = Checks.disk("disk 64 seek 64 rate 1;idle 0;process a weight 1" + REST);
@@ -722,6 +867,21 @@ public final class AheadEdgesTest {
         for (int[][] s : all) {
             C.same("see", see(x, s[0]), s[0].length / 2);
             C.same("fits of " + java.util.Arrays.toString(s[0]), x.fits(), s[1][0]);
+        }
+    }
+
+    /** All sixteen rows count, the last one, too. */
+    private static void fitsOfSixteenRows() {
+        for (int odd = 0; odd < 16; odd++) {
+            int[] bytes = new int[32];
+            for (int i = 0; i < 16; i++) {
+                bytes[2 * i] = i == odd ? 3 : 1;
+                bytes[2 * i + 1] = 0;
+            }
+            DiskBudgets x = Checks.disk(ONE);
+            C.same("see", see(x, bytes), 16);
+            C.same("the row " + odd + " counts", x.fits(), 0x1ffffe);
+            C.same("tells", x.tells(0), 5);
         }
     }
 

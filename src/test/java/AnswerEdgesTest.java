@@ -1,4 +1,3 @@
-import java.util.function.Consumer;
 import java.util.function.ToLongFunction;
 
 /** The edges of promises 1 to 14: the tape, the disk, and what there is. */
@@ -20,6 +19,7 @@ public final class AnswerEdgesTest {
         theTapeGoes();
         diskRefusedStays();
         diskAsAtFirst();
+        diskTellsItsOwn();
         diskKeepsSeedImageRefusals();
         diskOfTheWholeTape();
         faultOfTheLatest();
@@ -211,24 +211,46 @@ public final class AnswerEdgesTest {
         for (int w = 0; w <= 14; w++) C.same("no disk still: has " + w, x.has(w), w == 4 || w == 6 || w == 7 ? -1 : w == 14 ? 1 : 0);
     }
 
+    /** Some that wait, with steps behind them, some raised; something kept and seen. */
+    private static void busyPast(DiskBudgets x) {
+        Checks.put(x, "disk 99 seek 9 rate 1;budget 1 to 30;idle 2;slice 9;near 9;raise 9 for 300 rest 1;process abcdef weight 9 from 3 does on take 9 think 0,on take 4 think 0,on take 7 think 1;"
+                + "process b weight 5 from 4 does at 12 take 8 think 0,at 30 take 5 think 0;stream c weight 2 from 0 does on take 3 think 2,on take 1 think 5;");
+        x.disk();
+        x.seed(77);
+        x.idle(20);
+        x.slice(200);
+        x.weight(2, 77);
+        x.ticks(60);
+        x.ask(0, 0, 64);
+        x.ticks(8);
+        Checks.put(x, 9, 6);
+        x.see();
+    }
+
     /** "Without one all is as at first, nothing is KEPT, SEEN or can be undone; the seed stays." */
     private static void diskAsAtFirst() {
+        DiskBudgets busy = new DiskBudgets();
+        busyPast(busy);
+        boolean waits = false;
+        boolean steps = false;
+        boolean raised = false;
+        for (int i = 0; i < 30; i++) {
+            for (int p = 0; p < 3; p++) {
+                waits |= busy.process(p, 2) == 1;
+                steps |= busy.process(p, 4) != 0;
+                raised |= busy.queue(p, 7) != 0;
+            }
+            if (i % 3 == 2) busy.ticks(1);
+        }
+        C.same("some wait, have steps behind them, are raised", waits && steps && raised, true);
         String[] texts = {TWO, D, D + "process a weight 1 from 0 does on take 1 think 1;",
+            "disk 64 seek 64 rate 1;process a weight 2 from 0 does on take 2 think 3,on take 1 think 0;process b weight 1 from 5 does at 3 take 1 think 0;process d weight 1 from 2 does on take 2 think 1;",
             "disk 99 seek 9 rate 9;budget 1 to 3;idle 9;slice 9;near 9;raise 9 for 9 rest 9;process c weight 9 from 0 does on take 9 think 9;"};
-        Consumer<DiskBudgets> past = x -> {
-            Checks.put(x, TWO);
-            x.disk();
-            x.seed(77);
-            x.on(0, false);
-            x.ticks(50);
-            x.chance(9);
-            Checks.put(x, 9, 6);
-            x.see();
-            x.seed(77);
-        };
         for (String text : texts) {
             DiskBudgets x = new DiskBudgets();
-            past.accept(x);
+            // Twice: what is kept of the former two disks must not show.
+            busyPast(x);
+            busyPast(x);
             Checks.put(x, text);
             x.disk();
             DiskBudgets y = Checks.disk(text);
@@ -240,10 +262,36 @@ public final class AnswerEdgesTest {
             C.same("all fit", x.fits(), (1 << 21) - 1);
             x.ticks(150);
             y.ticks(150);
-            y.undo();
-            y.ticks(150);
             Standing.same(C, "and goes on so: " + text, x, y);
         }
+    }
+
+    /** What is told without the five is told so behind any other disk. */
+    private static void diskTellsItsOwn() {
+        DiskBudgets x = new DiskBudgets();
+        for (int i = 0; i < 2; i++) {
+            Checks.put(x, D + "budget 1 to 3;idle 1;slice 3;near 3;raise 9 for 500 rest 1;process abcdef weight 9 from 9 does on take 9 think 9;process b weight 9 from 9 does on take 9 think 9;");
+            C.same("disk", x.disk(), 8);
+        }
+        Checks.put(x, D + "process a weight 2 from 999 does on take 1 think 1;");
+        C.same("disk", x.disk(), 2);
+        C.same("one process", x.has(1), 1);
+        C.same("no second letter", x.letter(0, 1), 0);
+        C.same("idle", x.has(8), 4);
+        C.same("slice", x.has(9), 40);
+        C.same("top", x.has(10), 64);
+        C.same("budget", x.queue(0, 1), 36);
+        x.ask(0, 16, 1);
+        C.same("16 is near", x.queue(0, 4), 0);
+        x.ask(0, 34, 1);
+        C.same("17 is far", x.queue(0, 4), 1);
+        Checks.go(x, 1000);
+        C.same("no rest of 1", x.queue(0, 7), 0);
+        Checks.put(x, D + "process a weight 2 from 999 does on take 1 think 1;");
+        x.disk();
+        Checks.go(x, 1000);
+        C.same("rest of 999, for 0", x.queue(0, 7), 999);
+        C.same("not raised", x.queue(0, 8), 2);
     }
 
     private static void diskKeepsSeedImageRefusals() {
@@ -281,6 +329,16 @@ public final class AnswerEdgesTest {
         }
         C.same("the disk", x.disk(), 7);
         C.same("six", x.has(1), 6);
+        // 1600 signs, each by itself; 1600 blanks; 1600 letters; 1600 digits.
+        int[][] all = {{0x3b, 1, 0}, {0x20, 1, 1600}, {0x61, 1, 0}, {0x30, 1, 0}};
+        for (int[] s : all) {
+            int four = s[0] * 0x01010101;
+            for (int i = 0; i < 80; i++) x.feed(four, four, four, four, four);
+            C.same("no disk", x.disk(), -1);
+            C.same("fault of " + s[0], x.fault(0), s[1]);
+            C.same("place of " + s[0], x.fault(1), s[2]);
+        }
+        C.same("six still", x.has(1), 6);
     }
 
     // ---- 5: fault

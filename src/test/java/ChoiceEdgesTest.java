@@ -29,6 +29,7 @@ public final class ChoiceEdgesTest {
         nowByTheWeightsTogether();
         nowByRaisedWeights();
         nowRoundedEachTime();
+        meanRoundedEachTime();
         doneByHandWaitsOn();
         doneOfAStreamThinksOn();
         latenciesCount();
@@ -38,7 +39,10 @@ public final class ChoiceEdgesTest {
         idleWithNothingToWait();
         topWithinLeastAndMost();
         topIsCut();
+        topAsAFloat();
         rateIsLearnt();
+        rateOfOneTick();
+        meansBelowAllNormalFloats();
         twiceTheBudget();
         servedAsBudget();
         halfTheBudget();
@@ -393,6 +397,22 @@ public final class ChoiceEdgesTest {
         C.same("not the same as at once", x.bits(0) == Checks.bits(59f / 7f), false);
     }
 
+    /** MEAN is told so, too: by and by it is not what it were if it were rounded at the end of each sum alone. */
+    private static void meanRoundedEachTime() {
+        DiskBudgets x = Checks.disk("disk 64 seek 64 rate 1;idle 20;process a weight 1 from 0 does on take 1 think 10;");
+        float mean = 0f;
+        float other = 0f;
+        boolean unlike = false;
+        for (int i = 0; i < 20; i++) {
+            while (x.process(0, 9) + x.process(0, 5) < i + 2) x.ticks(1);
+            mean = mean * 0.875f + 10f * 0.125f;
+            other = (float) ((double) other * 0.875 + 10.0 * 0.125);
+            unlike |= mean != other;
+            C.same("mean behind " + i, x.queue(0, 12), Checks.bits(mean));
+        }
+        C.same("it is another", unlike, true);
+    }
+
     /** "if it was ASKED by a STEP, and it is no stream, it WAITS no more and THINKS as that STEP tells" */
     private static void doneByHandWaitsOn() {
         DiskBudgets x = Checks.disk("disk 64 seek 64 rate 1;process a weight 1 from 0 does at 40 take 1 think 5;");
@@ -542,6 +562,16 @@ public final class ChoiceEdgesTest {
         }
     }
 
+    /** "RATE times slice as a FLOAT, cut": the product is rounded up to a whole number where, not rounded, it were just below. */
+    private static void topAsAFloat() {
+        for (int slice = 10; slice <= 100; slice += 10) {
+            DiskBudgets x = expired("rate 1;idle 4;budget 1 to 999;slice " + slice + ";", 1, 5);
+            C.same("rate: 0.875 and 0.025", x.bits(1), Checks.bits(0.875f + 1f / 5f * 0.125f));
+            C.same("top by " + slice, x.has(10), slice / 10 * 9);
+            C.same("else it were less", (int) ((double) (0.875f + 0.025f) * slice), slice / 10 * 9 - 1);
+        }
+    }
+
     /** "RATE is RATE times 0.875 and SERVED by the TICK less BEGAN times 0.125, FLOATS (the quotient first)" */
     private static void rateIsLearnt() {
         DiskBudgets x = Checks.disk("disk 999 seek 7 rate 3;idle 0;process a weight 1 from 0 does at 5 take 7 think 2,at 200 take 11 think 1;");
@@ -553,6 +583,35 @@ public final class ChoiceEdgesTest {
             rate = rate * 0.875f + (float) x.kept(k, 3) / (float) ticks * 0.125f;
             C.same("rate behind " + k, x.bits(1), Checks.bits(rate));
         }
+    }
+
+    /** The TICK less BEGAN is 1 at the least. */
+    private static void rateOfOneTick() {
+        for (int many : new int[] {1, 32, 64}) {
+            DiskBudgets x = expired("rate 64;idle 0;slice 3;budget 1 to 999;", many, 1);
+            float rate = 64f * 0.875f + (float) many / 1f * 0.125f;
+            C.same("rate by " + many, x.bits(1), Checks.bits(rate));
+            C.same("top by " + many, x.has(10), (int) (rate * 3f));
+        }
+    }
+
+    /** "(32 bits ..)": a MEAN that sinks goes through the smallest floats to 0, or stays at the least of them. */
+    private static void meansBelowAllNormalFloats() {
+        DiskBudgets x = Checks.disk("disk 64 seek 64 rate 64;budget 999 to 999;slice 200;process a weight 1 from 0 does at 0 take 1 think 0;");
+        x.ticks(1);
+        x.on(0, false);
+        x.ticks(5);
+        x.on(0, true);
+        x.ticks(1);
+        float mean = 5f * 0.125f;
+        boolean tiny = false;
+        for (int i = 0; i < 200; i++) {
+            x.ticks(10);
+            for (int k = 0; k < 5; k++) mean = mean * 0.875f + 0f * 0.125f;
+            C.same("mean behind " + 5 * i, x.queue(0, 12), Checks.bits(mean));
+            tiny |= mean > 0f && mean < Float.MIN_NORMAL;
+        }
+        C.same("below the normal ones", tiny, true);
     }
 
     /** "BUDGET: by 0 twice it" */

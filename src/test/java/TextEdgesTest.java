@@ -5,6 +5,9 @@ public final class TextEdgesTest {
     private static final String[] OWN = {"disk", "seek", "rate", "budget", "to", "idle", "slice", "near", "raise", "for",
         "rest", "weight", "from", "does", "stream", "at", "on", "take", "think", "process"};
     private static final Checks C = new Checks();
+    /** One that has read other texts before; it is made anew before it is asked too often. */
+    private static DiskBudgets used = new DiskBudgets();
+    private static int usedCalls = 0;
 
     public static void main(String[] args) {
         numbersOfTheDisk();
@@ -34,6 +37,7 @@ public final class TextEdgesTest {
         sideBySide();
         noBlankNeeded();
         wordsWhole();
+        wordsThatBeginNoStatement();
         firstAlongTheText();
         endsTooSoon();
         withoutAStatement();
@@ -459,6 +463,19 @@ public final class TextEdgesTest {
         bad(1, D + "process a ^b weight 1 from 0 does " + STEP + ";");
     }
 
+    /** A statement begins with disk, one of the five, process or stream. */
+    private static void wordsThatBeginNoStatement() {
+        for (String w : OWN) {
+            if ("budget idle slice near raise process stream".contains(w)) continue;
+            bad(1, D + "^" + w + " 3;");
+            bad(1, D + "^" + w + " 3 for 3 rest 3;");
+            bad(1, D + "^" + w + " 3 to 4;");
+            bad(1, D + "^" + w + " a weight 1 from 0 does " + STEP + ";");
+            bad(1, D + "^" + w);
+        }
+        bad(1, D + "^a weight 1 from 0 does " + STEP + ";");
+    }
+
     // ---- which fault
 
     /** "FAULTS, the first along the text" */
@@ -533,6 +550,11 @@ public final class TextEdgesTest {
 
     private static DiskBudgets put(String text) {
         DiskBudgets x = new DiskBudgets();
+        put(x, text);
+        return x;
+    }
+
+    private static void put(DiskBudgets x, String text) {
         int full = 0;
         for (int i = 0; i < text.length(); i += 20) {
             int[] five = new int[5];
@@ -541,24 +563,36 @@ public final class TextEdgesTest {
         }
         C.same("on the tape", full, (text.length() + 19) / 20 * 20);
         C.same("its length", x.end(text.length()), true);
-        return x;
     }
 
     private static void good(String text, int statements) {
-        DiskBudgets x = put(text);
-        C.same("disk() of " + text, x.disk(), statements);
-        C.same("fault(0) of " + text, x.fault(0), 0);
-        C.same("fault(1) of " + text, x.fault(1), -1);
+        told(put(text), text, statements, 0, -1);
+        told(usedFor(text), text, statements, 0, -1);
     }
 
     /** The sign ^ stands ahead of the byte at which the fault is due, and is not of the text. */
     private static void bad(int kind, String marked) {
         int place = marked.indexOf('^');
         String text = marked.substring(0, place) + marked.substring(place + 1);
-        DiskBudgets x = put(text);
-        C.same("disk() of " + marked, x.disk(), -1);
-        C.same("fault(0) of " + marked, x.fault(0), kind);
-        C.same("fault(1) of " + marked, x.fault(1), place);
+        told(put(text), marked, -1, kind, place);
+        told(usedFor(text), marked, -1, kind, place);
+    }
+
+    private static void told(DiskBudgets x, String text, int statements, int kind, int place) {
+        C.same("disk() of " + text, x.disk(), statements);
+        C.same("fault(0) of " + text, x.fault(0), kind);
+        C.same("fault(1) of " + text, x.fault(1), place);
+    }
+
+    /** What former texts told must not tell in the next one. */
+    private static DiskBudgets usedFor(String text) {
+        if (usedCalls + text.length() / 20 + 6 > 512) {
+            used = new DiskBudgets();
+            usedCalls = 0;
+        }
+        usedCalls += text.length() / 20 + 6;
+        put(used, text);
+        return used;
     }
 
     /** A number from low to high: the least and the greatest are taken, those beside them are FAULT 2 at it. */
