@@ -708,6 +708,7 @@ public final class ActEdgesTest {
         boolean most = false;
         DiskBudgets x = Checks.disk("disk 64 seek 1 rate 1;idle 0;");
         for (int slice = 1; slice <= 200; slice++) {
+            if (slice == 101) x = Checks.disk("disk 64 seek 1 rate 1;idle 0;");
             x.slice(slice);
             x.image();
             int due = last(0, slice);
@@ -715,11 +716,12 @@ public final class ActEdgesTest {
             zero |= due == 0;
             most |= due == 250;
         }
+        DiskBudgets y = Checks.disk("disk 64 seek 1 rate 1;slice 200;");
         for (int idle = 0; idle <= 20; idle++) {
-            x.idle(idle);
-            x.image();
+            y.idle(idle);
+            y.image();
             int due = last(idle, 200);
-            C.same("idle " + idle, x.octet(2), due);
+            C.same("idle " + idle, y.octet(2), due);
             zero |= due == 0;
             most |= due == 250;
         }

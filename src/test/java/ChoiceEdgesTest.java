@@ -404,7 +404,8 @@ public final class ChoiceEdgesTest {
         float other = 0f;
         boolean unlike = false;
         for (int i = 0; i < 20; i++) {
-            while (x.process(0, 9) + x.process(0, 5) < i + 2) x.ticks(1);
+            // Asked at 0, 11, 22, ..: each is done in one tick, and 10 behind that it asks again.
+            x.ticks(i == 0 ? 12 : 11);
             mean = mean * 0.875f + 10f * 0.125f;
             other = (float) ((double) other * 0.875 + 10.0 * 0.125);
             unlike |= mean != other;
@@ -577,7 +578,7 @@ public final class ChoiceEdgesTest {
         DiskBudgets x = Checks.disk("disk 999 seek 7 rate 3;idle 0;process a weight 1 from 0 does at 5 take 7 think 2,at 200 take 11 think 1;");
         float rate = 3f;
         for (int k = 0; k < 12; k++) {
-            while (x.has(11) <= k) x.ticks(1);
+            x.ticks(x.expiry(0, 0));
             // It begins at 0, or behind its think.
             int ticks = k == 0 ? x.kept(0, 0) : x.kept(k, 0) - x.kept(k - 1, 0) - (k % 2 == 1 ? 2 : 1);
             rate = rate * 0.875f + (float) x.kept(k, 3) / (float) ticks * 0.125f;

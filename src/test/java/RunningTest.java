@@ -14,7 +14,6 @@ public final class RunningTest {
         raises();
         placesAndSteps();
         keeps();
-        tinyMean();
         leastStart();
         nineOut();
         noProcesses();
@@ -282,26 +281,6 @@ public final class RunningTest {
         int newest = x.kept(39, 0);
         for (int k = 0; k < 40; k++) C.same("each fourth tick " + k, x.kept(k, 0), newest - 4 * (39 - k));
         C.same("newest", newest, x.queue(0, 6));
-    }
-
-    /** Thinking no tick at all lets the mean sink to floats below the usual ones. */
-    private static void tinyMean() {
-        DiskBudgets x = Checks.disk("disk 64 seek 64 rate 64;budget 999 to 999;slice 200;process a weight 1 from 0 does at 0 take 1 think 0;");
-        x.ticks(1);
-        x.on(0, false);
-        x.ticks(5);
-        x.on(0, true);
-        x.ticks(1);
-        float mean = 5f * 0.125f;
-        C.same("mean", x.queue(0, 12), Checks.bits(mean));
-        boolean tiny = false;
-        for (int i = 0; i < 1000; i += 10) {
-            x.ticks(20);
-            for (int k = 0; k < 10; k++) mean = mean * 0.875f + 0f * 0.125f;
-            C.same("mean behind " + i, x.queue(0, 12), Checks.bits(mean));
-            tiny |= mean > 0f && mean < Float.MIN_NORMAL;
-        }
-        C.same("tiny at last", tiny, true);
     }
 
     /** Now leaps to the least start if no start is that low. */
