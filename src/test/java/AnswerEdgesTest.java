@@ -38,6 +38,7 @@ public final class AnswerEdgesTest {
         requestsOfAQueue();
         requestItIsBusyWith();
         nextOfNone();
+        nextAmongItsOwn();
         keptOnes();
         withSixProcesses();
         withoutProcesses();
@@ -588,6 +589,20 @@ public final class AnswerEdgesTest {
         x.ticks(1);
         C.same("busy with one, that of the step lies", x.next(0), 0);
         for (int q : new int[] {-1, 2, LEAST, MOST}) C.same("next of " + q, x.next(q), -1);
+    }
+
+    /** "Which of the requests that lie in a QUEUE is NEXT (as in request())": those of other queues do not count. */
+    private static void nextAmongItsOwn() {
+        DiskBudgets x = Checks.disk("disk 64 seek 64 rate 1;near 0;process a weight 1 from 999 does on take 1 think 1;process b weight 1 from 999 does on take 1 think 1;");
+        int[][] asked = {{0, 50, 0}, {1, 40, 0}, {0, 30, 1}, {1, 20, 1}, {1, 10, 2}, {0, 10, 2}, {0, 10, 2}, {1, 11, 2}};
+        for (int[] s : asked) {
+            x.ask(s[0], s[1], 1);
+            int due = x.next(s[0]);
+            C.same("next behind " + s[0] + " " + s[1], due, s[2]);
+            for (int k = 0; k < x.queue(s[0], 0); k++) C.same("none is less", x.request(s[0], k, 0) >= x.request(s[0], due, 0), true);
+        }
+        C.same("of a", x.next(0), 2);
+        C.same("of b", x.next(1), 2);
     }
 
     /** "the k-th from the oldest on .. NONE when there is none such, or for others" */
