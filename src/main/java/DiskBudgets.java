@@ -17,6 +17,8 @@ public final class DiskBudgets {
     private static final int MOST_SEEN_TICKS = 60;
     private static final int NO_QUEUE = 6;
     private static final int ACTIVE_KINDS = 7;
+    /** Above every latency and every count; the library's own name for it is not on LANGUAGE's list. */
+    private static final int ABOVE_ALL = 2147483647;
 
     private Plan plan = new Plan();
     private Plan draft = new Plan();
@@ -379,7 +381,7 @@ public final class DiskBudgets {
             return NONE;
         }
         int best = MOST_SLICE;
-        int least = greatestBySlice(n, MOST_SLICE, Integer.MAX_VALUE);
+        int least = greatestBySlice(n, MOST_SLICE, ABOVE_ALL);
         for (int i = MOST_SLICE - 1; i >= 1 && least > 0; i--) {
             int greatest = greatestBySlice(n, i, least);
             if (greatest < least) {
@@ -419,7 +421,7 @@ public final class DiskBudgets {
         }
         groupByTick(mask);
         int best = 0;
-        int fewest = Integer.MAX_VALUE;
+        int fewest = ABOVE_ALL;
         for (int t = 1; t <= MOST_SEEN_TICKS; t++) {
             int most = mostLeftAt(t);
             if (most < fewest) {

@@ -1,3 +1,6 @@
+import java.io.File;
+import java.io.PrintWriter;
+import java.io.StringWriter;
 import java.lang.management.ManagementFactory;
 import java.lang.reflect.Field;
 import java.lang.reflect.Method;
@@ -5,23 +8,38 @@ import java.lang.reflect.Modifier;
 import java.nio.file.Files;
 import java.nio.file.Path;
 import java.util.List;
+import java.util.Map;
 import java.util.Set;
+import java.util.TreeMap;
 import java.util.TreeSet;
 import java.util.regex.Matcher;
 import java.util.regex.Pattern;
+import java.util.spi.ToolProvider;
+import java.util.stream.Collectors;
+import java.util.stream.Stream;
 
 /** The rules of ../shared/LANGUAGE.md that a test can look at, and the room that a run takes. */
 public final class LanguageTest {
     private static final Checks C = new Checks();
-    private static final Set<String> FACE = Set.of("feed", "end", "disk", "fault", "has", "letter", "process", "mean",
-            "queue", "bits", "request", "next", "kept", "later", "share", "when", "late", "alone", "idling", "gain",
-            "apart", "latest", "least", "expiry", "worst", "slicing", "lag", "see", "fits", "tells", "ticks", "ask",
-            "weight", "idle", "slice", "on", "chance", "undo", "seed", "image", "octet", "take", "status");
+    private static final Set<String> SIGNATURES = Set.of(
+            "int feed(int,int,int,int,int)", "boolean end(int)", "int disk()", "int fault(int)", "int has(int)",
+            "int letter(int,int)", "int process(int,int)", "long mean(int)", "int queue(int,int)", "int bits(int)",
+            "int request(int,int,int)", "int next(int)", "int kept(int,int)", "int later(int,int,int)",
+            "int share(int,int)", "int when(int,int)", "int late(int,int,int)", "int alone(int,int)",
+            "int idling(int,int)", "int gain(int,int)", "int apart(int)", "int latest(int,int,int)",
+            "int least(int,int,int)", "int expiry(int,int)", "int worst(int,int)", "int slicing(int,int)",
+            "int lag(int)", "int see()", "int fits()", "int tells(int)", "int ticks(int)", "int ask(int,int,int)",
+            "boolean weight(int,int)", "boolean idle(int)", "boolean slice(int)", "boolean on(int,boolean)",
+            "int chance(int)", "boolean undo()", "boolean seed(int)", "int image()", "int octet(int)",
+            "boolean take()", "int status(int)");
+    private static final Set<String> FACE = SIGNATURES.stream()
+            .map(s -> s.substring(s.indexOf(' ') + 1, s.indexOf('('))).collect(Collectors.toSet());
 
     public static void main(String[] args) throws Exception {
         face();
         inside();
         source(Files.readString(Path.of("src/main/java/DiskBudgets.java")));
+        depth();
         room();
         C.close();
     }
@@ -31,10 +49,10 @@ public final class LanguageTest {
         for (Method m : DiskBudgets.class.getDeclaredMethods()) {
             if (m.isSynthetic()) continue;
             boolean open = Modifier.isPublic(m.getModifiers());
-            if (open) C.same("twice " + m, found.add(m.getName()), true);
+            if (open) found.add(signature(m));
             else C.same("private " + m, Modifier.isPrivate(m.getModifiers()) && !FACE.contains(m.getName()), true);
         }
-        C.same("the face " + found, found.equals(new TreeSet<>(FACE)), true);
+        C.same("the face " + found, found.equals(new TreeSet<>(SIGNATURES)), true);
         for (Field f : DiskBudgets.class.getDeclaredFields()) {
             boolean none = f.getName().equals("NONE");
             C.same("field " + f, none ? Modifier.isPublic(f.getModifiers()) : Modifier.isPrivate(f.getModifiers()), true);
@@ -42,6 +60,12 @@ public final class LanguageTest {
         C.same("final", Modifier.isFinal(DiskBudgets.class.getModifiers()), true);
         C.same("one constructor", DiskBudgets.class.getDeclaredConstructors().length, 1);
         C.same("NONE", DiskBudgets.NONE, -1);
+    }
+
+    private static String signature(Method m) {
+        String types = Stream.of(m.getParameterTypes()).map(Class::getName).collect(Collectors.joining(","));
+        boolean unlike = Modifier.isStatic(m.getModifiers()) || m.getExceptionTypes().length > 0;
+        return (unlike ? "static or with exceptions " : "") + m.getReturnType().getName() + " " + m.getName() + "(" + types + ")";
     }
 
     private static void inside() {
@@ -70,7 +94,7 @@ public final class LanguageTest {
                 "instanceof", "Object", "hashCode", "static {", "package ", "var ", "new Random", "nanoTime");
         for (String s : out) C.same("no " + s, code.contains(s), false);
         Matcher calls = Pattern.compile("\\b(Math|System|Integer|Long|Arrays|String)\\.(\\w+)").matcher(code);
-        Set<String> allowed = Set.of("Math.max", "Math.min", "Math.abs", "System.arraycopy", "Integer.bitCount", "Integer.MAX_VALUE");
+        Set<String> allowed = Set.of("Math.max", "Math.min", "Math.abs", "System.arraycopy", "Integer.bitCount");
         while (calls.find()) C.same("library " + calls.group(), allowed.contains(calls.group()), true);
         int lines = 0;
         for (String line : text.split("\n")) {
@@ -78,6 +102,46 @@ public final class LanguageTest {
             if (line.matches("    (    )?\\}")) C.same("sixty lines", lines <= 60, true);
             C.same("plain signs", line.chars().allMatch(c -> c >= 32 && c < 127), true);
         }
+    }
+
+    /** Rules 8 and 11: no method calls itself, by others either, and the calls go at most eight deep. */
+    private static void depth() throws Exception {
+        ToolProvider javap = ToolProvider.findFirst("javap").orElse(null);
+        if (javap == null) {
+            System.out.println("no javap here: the depth of the calls was not looked at");
+            return;
+        }
+        Path classes = Path.of(DiskBudgets.class.getProtectionDomain().getCodeSource().getLocation().toURI());
+        Map<String, Set<String>> calls = new TreeMap<>();
+        for (File file : classes.toFile().listFiles((dir, name) -> name.matches("DiskBudgets(\\$\\w+)?\\.class"))) {
+            StringWriter told = new StringWriter();
+            javap.run(new PrintWriter(told), new PrintWriter(told), "-p", "-c", file.getPath());
+            callsOf(file.getName().replace(".class", ""), told.toString(), calls);
+        }
+        C.same("methods are found", calls.size() > FACE.size(), true);
+        for (String name : FACE) {
+            int deep = depthOf("DiskBudgets." + name, calls, 1);
+            C.same("eight deep at most: " + name + " goes " + deep, deep <= 8, true);
+        }
+    }
+
+    private static void callsOf(String itsClass, String told, Map<String, Set<String>> calls) {
+        Pattern head = Pattern.compile("  (?:[\\w.$\\[\\]]+ )*(\\w+)\\(.*\\);");
+        Pattern call = Pattern.compile(".*// (?:Interface)?Method (?:([\\w/$]+)\\.)?(\\w+):\\(.*");
+        Set<String> its = new TreeSet<>();
+        for (String line : told.split("\\R")) {
+            Matcher h = head.matcher(line);
+            Matcher c = call.matcher(line);
+            if (h.matches()) its = calls.computeIfAbsent(itsClass + "." + h.group(1), k -> new TreeSet<>());
+            else if (c.matches()) its.add((c.group(1) == null ? itsClass : c.group(1)) + "." + c.group(2));
+        }
+    }
+
+    /** The way ends at twenty, where one calls itself. */
+    private static int depthOf(String method, Map<String, Set<String>> calls, int open) {
+        int most = open;
+        if (open < 20) for (String c : calls.getOrDefault(method, Set.of())) most = Math.max(most, depthOf(c, calls, open + 1));
+        return most;
     }
 
     /** What is made is made in the constructor: some thousands of elements, and none by a call. */
