@@ -283,6 +283,9 @@ public final class TextEdgesTest {
             bad(1, D + kind + "weight^s" + rest);
             bad(1, D + kind + "process".substring(0, 6) + "^ses" + rest);
             bad(1, D + kind + "abcdef^g");
+            // A 7th letter makes it no NAME, so that it is none that is there already.
+            bad(1, D + kind + "abcdef" + rest + kind + "abcdef^g" + rest);
+            bad(3, D + kind + "abcdef" + rest + kind + "^abcdef" + rest);
             bad(1, D + kind + "^weight 1 from 0 does " + STEP + ";");
         }
     }
